@@ -27,7 +27,7 @@ public final class TownPlayers {
     private final Band slippedBand = new Band();
     private final Hearing hearing = new Hearing();
     private final Tuner tuner = new Tuner();
-    private final Places places = new Places();
+    private final Seating seating = new Seating();
     private final Reader reader = new Reader();
     private final byte[] text = new byte[TEXT_LIMIT];
     private int textSize = 0;
@@ -247,8 +247,8 @@ public final class TownPlayers {
         if (!hasPlayer(player)) return refuseBad(BAD);
         if (streets.windows < band.players || streets.ears == 0) return NONE;
         trialBand.becomeLike(band);
-        places.search(streets, trialBand, hearing);
-        return places.chosen[player];
+        seating.search(streets, trialBand, hearing);
+        return seating.chosen[player];
     }
 
     public int wrong(int ears, int t0, int t1, int t2) {
@@ -486,7 +486,7 @@ public final class TownPlayers {
 
         int soundTime(int w, int e) {
             int wind = windX * (windowX[w] - earX[e]) + windY * (windowY[w] - earY[e]);
-            return Math.max(0, pacesToEar(w, e) * slow + wind);
+            return Math.max(0, apart(windowX[w], windowY[w], earX[e], earY[e]) * slow + wind);
         }
 
         int echoTime(int w, int e) {
@@ -657,20 +657,18 @@ public final class TownPlayers {
         void listen(Streets streets, Band band, int ear) {
             size = 0;
             for (int p = 0; p < band.players; p++) {
-                if (band.kinds[p] != ASLEEP) listenTo(streets, band, p, ear);
-            }
-        }
-
-        private void listenTo(Streets streets, Band band, int p, int ear) {
-            int w = band.windows[p];
-            int loud = band.louds[p];
-            add(p, streets.soundTime(w, ear), loud - streets.pacesToEar(w, ear));
-            if (band.kinds[p] == ECHOED && streets.hasMill()) {
-                add(p, streets.echoTime(w, ear), loud / 2 - streets.pacesByMill(w, ear));
-            }
-            if (band.kinds[p] == TWO) {
-                int second = streets.nextWindow(w);
-                add(p, streets.soundTime(second, ear), loud - streets.pacesToEar(second, ear));
+                int kind = band.kinds[p];
+                if (kind == ASLEEP) continue;
+                int w = band.windows[p];
+                int loud = band.louds[p];
+                add(p, streets.soundTime(w, ear), loud - streets.pacesToEar(w, ear));
+                if (kind == ECHOED && streets.hasMill()) {
+                    add(p, streets.echoTime(w, ear), loud / 2 - streets.pacesByMill(w, ear));
+                }
+                if (kind == TWO) {
+                    int second = streets.nextWindow(w);
+                    add(p, streets.soundTime(second, ear), loud - streets.pacesToEar(second, ear));
+                }
             }
         }
 
@@ -774,31 +772,50 @@ public final class TownPlayers {
     }
 
     /** Tries all ways to put the players at unlike windows, in the order of those windows. */
-    private static final class Places {
+    private static final class Seating {
+        // Six players at six windows make 1956 steps forth and some 1200 back.
+        private static final int STEP_LIMIT = 10000;
+
         final int[] chosen = new int[PLAYER_LIMIT];
+        private final int[] loudSoFar = new int[PLAYER_LIMIT];
         private int chosenLoud = NONE;
         private int chosenSpread = 0;
 
         void search(Streets streets, Band trial, Hearing hearing) {
             chosenLoud = NONE;
             chosenSpread = 0;
-            // With nobody awake each way is as loud as any other.
-            putOn(streets, trial, hearing, 0, 0, LOUD_TOP);
+            int p = 0;
+            trial.windows[p] = NONE;
+            for (int step = 0; step < STEP_LIMIT && p >= 0; step++) {
+                trial.windows[p] = nextFree(streets, trial, p);
+                if (trial.windows[p] == NONE) {
+                    p--;
+                    continue;
+                }
+                // With nobody awake each way is as loud as any other.
+                int before = p == 0 ? LOUD_TOP : loudSoFar[p - 1];
+                loudSoFar[p] = Math.min(before, leastLoud(streets, trial, p));
+                // A way that is less loud than the chosen one can't become louder.
+                if (loudSoFar[p] < chosenLoud) continue;
+                if (p + 1 < trial.players) {
+                    p++;
+                    trial.windows[p] = NONE;
+                } else {
+                    judge(streets, trial, hearing, loudSoFar[p]);
+                }
+            }
         }
 
-        private void putOn(Streets streets, Band trial, Hearing hearing, int p, int taken, int loud) {
-            // A way that is less loud than one found can't become louder.
-            if (loud < chosenLoud) return;
-            if (p >= trial.players || p >= PLAYER_LIMIT) {
-                judge(streets, trial, hearing, loud);
-                return;
+        /** The next window behind the player's that none of the players ahead of it has. */
+        private static int nextFree(Streets streets, Band trial, int p) {
+            int taken = 0;
+            for (int q = 0; q < p; q++) {
+                taken |= 1 << trial.windows[q];
             }
-            for (int w = 0; w < streets.windows; w++) {
-                if (holds(taken, w)) continue;
-                trial.windows[p] = w;
-                int least = Math.min(loud, leastLoud(streets, trial, p));
-                putOn(streets, trial, hearing, p + 1, taken | 1 << w, least);
+            for (int w = trial.windows[p] + 1; w < streets.windows; w++) {
+                if (!holds(taken, w)) return w;
             }
+            return NONE;
         }
 
         private void judge(Streets streets, Band trial, Hearing hearing, int loud) {
