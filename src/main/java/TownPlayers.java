@@ -127,12 +127,11 @@ public final class TownPlayers {
     }
 
     public int read() {
+        trialStreets.becomeLike(streets);
         trialStreets.makeEmpty();
         trialBand.makeEmpty();
         int items = reader.readTown(text, textSize, trialStreets, trialBand);
         if (items < 0) return FAULT_BASE - reader.fault;
-        trialStreets.windX = streets.windX;
-        trialStreets.windY = streets.windY;
         streets.becomeLike(trialStreets);
         band.becomeLike(trialBand);
         return items;
@@ -419,14 +418,13 @@ public final class TownPlayers {
         int windX = 0;
         int windY = 0;
 
+        /** All as at first but the wind, which no text tells. */
         void makeEmpty() {
             windows = 0;
             ears = 0;
             millX = NONE;
             millY = NONE;
             slow = SLOW_AT_FIRST;
-            windX = 0;
-            windY = 0;
         }
 
         void becomeLike(Streets other) {

@@ -16,6 +16,7 @@ final class HeardPromisesTest {
         tunedPlain();
         tunedKinds();
         tunedEdges();
+        tunedBounds();
         tunedRefused();
         clash();
         leftOut();
@@ -43,6 +44,10 @@ final class HeardPromisesTest {
         TownPlayers one = Due.town("window 10 10; ear 10 20; player 4 0 50;");
         DUE.is("13 TWO at the one window there is", one.heard(0, 0, -1), 2);
         DUE.is("13 twice the same", one.heard(0, 0, 1), 30);
+        TownPlayers six = Due.town("window 0 0; window 1 0; window 2 0; window 3 0; window 4 0; window 5 0; ear 0 0;"
+                + "player 4 0 99; player 4 1 99; player 4 2 99; player 4 3 99; player 4 4 99; player 4 5 99;");
+        DUE.is("13 twelve at most", six.heard(0, 0, -1), 12);
+        for (int i = 0; i < 12; i++) DUE.is("13 six of TWO: heard(0, 5, " + i + ")", six.heard(0, 5, i), 5 + 3 * ((i + 1) / 2 % 6));
     }
 
     private static void heardRefused() {
@@ -72,9 +77,10 @@ final class HeardPromisesTest {
         DUE.is("14 the time goes with it", y.heard(0, 0, 0), 24);
         TownPlayers z = Due.town("window 10 10; ear 10 20; mill 10 10; player 2 0 10;");
         DUE.is("14 nothing", z.heard(0, 0, -1), 0);
-        z.offset(0, 500);
         TownPlayers echo = Due.town("window 10 10; ear 10 10; mill 10 10; player 2 0 1;");
         DUE.is("14 half of 1 is not heard", echo.heard(0, 0, -1), 1);
+        TownPlayers edge = Due.town("window 0 9; ear 0 9; mill 0 0; player 2 0 99;");
+        DUE.is("14 a mill at 0, 0 is one", edge.loud(0, 1), 31);
     }
 
     private static void loudRefused() {
@@ -112,6 +118,9 @@ final class HeardPromisesTest {
         DUE.is("16 together(-1)", x.together(-1), TownPlayers.BAD);
         DUE.is("16 together(1000)", x.together(1000), TownPlayers.BAD);
         DUE.is("16 status(0)", x.status(0), 2);
+        x.ear(90, 90);
+        DUE.is("16 a third ear at which nobody is heard", x.together(35), 1);
+        DUE.is("16 three ears", Due.town("window 0 0; window 9 0; ear 5 0; ear 4 0; ear 0 0; player 0 0 50; player 0 1 50;").together(26), 0);
         DUE.is("16 no ears", Due.town("window 1 1; window 9 9; player 0 0 9; player 0 1 9;").together(0), 1);
     }
 
@@ -166,6 +175,33 @@ final class HeardPromisesTest {
         tuned("window 49 0; window 0 0; ear 49 0; slow 9; player 3 0 99; player 0 1 99;", 0, -59, -491);
         tuned("window 49 7; window 0 0; ear 49 7; slow 9; player 3 0 99; player 0 1 99;", 0, 10, -494);
         tuned("window 49 6; window 0 0; ear 49 6; slow 9; player 3 0 99; player 0 1 99;", 0, -9, -495);
+    }
+
+    private static void tunedBounds() {
+        // Player 1's sound takes 9 * 91 and 2 * 91 by WIND more: 1001 parts.
+        String far = "window 99 0; window 8 0; ear 99 0; slow 9;";
+        TownPlayers x = Due.town(far + "player 0 0 99; player 0 1 99;");
+        x.put(1, -2);
+        DUE.is("17 1001 apart by 0", x.tuned(0, TownPlayers.NONE), 0);
+        DUE.is("17 1001 apart by 1", x.tuned(1, 0), 500);
+        DUE.is("17 1001 apart by 1, the other", x.tuned(1, 1), -500);
+        DUE.is("18 1001 apart by 0", x.clash(0), 3);
+        x = Due.town(far + "player 1 0 99; player 0 1 99;");
+        x.put(1, -2);
+        DUE.is("17 EARLY one by 20", x.tuned(20, 0), -1000);
+        DUE.is("17 EARLY one by 21", x.tuned(21, 0), 500);
+        x = Due.town(far + "player 0 0 99; player 1 1 99;");
+        x.put(1, -2);
+        DUE.is("17 the other EARLY by 0", x.tuned(0, 0), 481);
+        x = Due.town(far + "player 3 0 99; player 0 1 99;");
+        x.put(1, -2);
+        DUE.is("17 BYEYE one by 1", x.tuned(1, 0), 500);
+        DUE.is("17 BYEYE one by 0", x.tuned(0, 0), -1000);
+        DUE.is("17 BYEYE one by 11", x.tuned(11, 0), 490);
+        DUE.is("17 another n of the same town", x.tuned(1, 0), 500);
+        TownPlayers two = Due.town(ONE_EAR + "player 4 0 50;");
+        DUE.is("17 one of TWO by 29", two.tuned(29, 0), -1000);
+        DUE.is("17 then by 30", two.tuned(30, 0), -500);
     }
 
     private static void tunedRefused() {

@@ -35,6 +35,8 @@ final class PlacesPromisesTest {
         best("window 90 90; window 80 90; ear 0 0; player 0 1 20; player 0 0 30;", 0, 1);
         // The least at all ears counts: the middle window is best for one.
         best("window 0 0; window 10 0; window 20 0; ear 0 0; ear 20 0; player 0 0 50;", 1);
+        // 11 and 0 by (0, 1), 1 and 10 by (1, 0).
+        best(line + "player 0 0 11; player 0 1 10;", 1, 0);
         // The second window of TWO is not asked how loud it is: 9 less nothing, 50 less 40.
         best("window 0 0; window 40 0; ear 0 0; player 4 1 9; player 0 0 50;", 0, 1);
         best("window 0 0; window 40 0; ear 0 0; player 5 0 9; player 0 1 50;", 1, 0);
@@ -47,6 +49,8 @@ final class PlacesPromisesTest {
         best(square + "offset 1 30;", 1, 0);
         // Of all ears together: 0 and 60 are as good as 30 and 30, and the first way comes first.
         best("window 10 10; window 20 10; ear 10 20; ear 30 10; player 0 0 50; player 0 1 50;", 0, 1);
+        // Player 1 is loudest at windows 0 and 1. SPREADS by (0, 1): 60, 60; (1, 0): 120, 0; (2, 0): 150, 30; (2, 1): 60, 0.
+        best("window 30 0; window 0 0; window 0 10; ear 30 0; ear 10 10; player 0 0 99; player 0 1 70; offset 0 60; offset 1 30;", 2, 1);
         TownPlayers x = Due.town("window 0 0; window 20 0; ear 10 0; player 0 0 50; player 0 1 50;");
         DUE.is("25 without wind", x.best(0), 0);
         x.offset(0, 30);
@@ -74,7 +78,8 @@ final class PlacesPromisesTest {
         DUE.is("25 best(1)", x.best(1), 0);
         TownPlayers six = Due.town("window 0 0; window 1 0; window 2 0; window 3 0; window 4 0; window 5 0; ear 0 0;"
                 + "player 0 0 90; player 0 1 80; player 0 2 70; player 0 3 60; player 0 4 50; player 0 5 40;");
-        DUE.is("25 six at six: the least loud one is nearest", six.best(5), 0);
+        // Player 5 is least loud anywhere, so it is nearest; the others are as near in time in any order.
+        for (int p = 0; p < 6; p++) DUE.is("25 six at six: best(" + p + ")", six.best(p), (p + 1) % 6);
     }
 
     private static void wrong() {
@@ -141,9 +146,9 @@ final class PlacesPromisesTest {
         // 30 and 60 with 10 times WINDX: a spread of 10, 20, 30, 40, 50.
         int[][] due = {{9, 0}, {10, 1}, {30, 3}, {49, 4}, {50, 5}, {999, 5}, {0, 0}};
         for (int[] d : due) DUE.is("28 drawn(" + d[0] + ")", x.drawn(d[0]), d[1]);
-        x.put(1, 2);
+        x.put(1, -1);
         DUE.is("28 whatever WINDX is", x.drawn(30), 3);
-        DUE.is("28 WINDX stays", x.put(1, 0), 2);
+        DUE.is("28 WINDX stays", x.put(1, 0), -1);
         x.put(2, 2);
         DUE.is("28 WINDY blows on", x.drawn(30), 3);
         DUE.is("28 drawn(-1)", x.drawn(-1), TownPlayers.BAD);

@@ -1,6 +1,7 @@
 /** Promises 29 to 33: images, STATUS, counts and the digest. */
 final class RestPromisesTest {
     private static final Due DUE = new Due("RestPromisesTest");
+    private static final int NONE = TownPlayers.NONE;
     private static final String TOWN = "window 1 2; window 3 4; ear 5 6; mill 7 8; slow 4; player 0 0 50; player 3 1 60; offset 1 - 9;";
 
     private RestPromisesTest() {}
@@ -144,6 +145,22 @@ final class RestPromisesTest {
         int[] wild = {Integer.MIN_VALUE, Integer.MIN_VALUE + 1, -32, -7, -2, -1, 6, 31, 32, 33, 63, 64, 1 << 30, Integer.MAX_VALUE};
         TownPlayers full = Due.town("window 1 1;window 2 2;window 3 3;window 4 4;window 5 5;window 6 6;ear 1 1;ear 2 2;ear 3 3;mill 9 9;"
                 + "player 0 0 9;player 1 1 9;player 2 2 9;player 3 3 9;player 4 4 9;player 5 5 9;");
+        // The echo is not heard at all, the second window of TWO at ears 1 and 2.
+        int[] many = {5, 6, 6}, spreads = {24 + 14, 24 + 20, 18 + 14};
+        for (int e = 0; e < 3; e++) {
+            DUE.is("full: heard at " + e, full.heard(e, 0, NONE), many[e]);
+            DUE.is("full: spread at " + e, full.spread(e), spreads[e]);
+        }
+        DUE.is("full: together", full.together(999), 1);
+        DUE.is("full: tuned", full.tuned(999, 5), -500);
+        DUE.is("full: clash", full.clash(999), NONE);
+        DUE.is("full: leftOut", full.leftOut(999), 0);
+        DUE.is("full: drawn", full.drawn(999), 5);
+        DUE.is("full: round", full.round(), 0);
+        DUE.is("full: settles", full.settles(), 0);
+        DUE.is("full: slip", full.slip(5, 9, 20), 32);
+        DUE.is("full: nextEar", full.nextEar(63), 2);
+        DUE.is("full: wrong", full.wrong(7, 99, 99, 99), NONE);
         for (int a : wild) {
             long bad = full.status(0), kept = full.digest();
             int beyond = a < 0 || a > 99 ? a : a + 100;

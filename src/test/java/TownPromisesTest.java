@@ -243,6 +243,8 @@ final class TownPromisesTest {
         DUE.is("12 OFFSET", x.late(0, 0), 0);
         DUE.is("12 blanks alone", Due.read(x, "   "), 0);
         DUE.is("12 no window then", x.count(0), 0);
+        DUE.is("12 a mill at 0, 0", Due.read(x, "mill 0 0; window 0 1; ear 0 0; player 2 0 9;"), 4);
+        DUE.is("12 its echo is heard", x.heard(0, 0, -1), 2);
         DUE.is("12 nothing", Due.read(x, ""), 0);
     }
 
@@ -253,6 +255,7 @@ final class TownPromisesTest {
         x.put(3, 44);
         x.follow(0, 1);
         x.round();
+        x.settles();
         x.image(1);
         long was = x.digest();
         x.ear(100, 100);
@@ -267,8 +270,13 @@ final class TownPromisesTest {
         DUE.is("12 OFFSET as at first", x.late(0, 0), 0);
         x.ear(4, 5);
         x.put(1, 0);
+        Due.read(x, "mill 9 9;");
         DUE.is("12 no mill", Due.read(x, "window 4 4; ear 4 4; player 2 0 99;"), 3);
         DUE.is("12 heard once", x.heard(0, 0, -1), 1);
+        long h = 677;
+        int[] all = {1, 1, 1, 0, 35, 4, 4, 4, 4, -1, -1, 3, 0, -1, 0, 2, 0, 99, 0, 0};
+        for (int v : all) h = 31 * h + v;
+        DUE.is("12 digest() of it", x.digest(), h);
         DUE.is("12 STATUS stays", x.status(0), 1);
         DUE.is("12 THE TEXT stays", x.count(4), 35);
         x.clear();
@@ -281,6 +289,10 @@ final class TownPromisesTest {
         String sixWindows = "window 1 1;window 1 1;window 1 1;window 1 1;window 1 1;window 1 1;";
         String sixPlayers = sixWindows + "player 0 0 1;player 0 1 1;player 0 2 1;player 0 3 1;player 0 4 1;player 0 5 1;";
         fault("", "^windows 1 1;");
+        fault("", "^xindow 1 1;");
+        fault("", "^windowz 1 1;");
+        fault("", "^z;");
+        fault("", "window 1 1 ^-");
         fault("", "^Window 1 1;");
         fault("", "  ^;");
         fault("", "^12;");
@@ -320,6 +332,7 @@ final class TownPromisesTest {
         fault(sixPlayers, "offset 5 - ^- 1;");
         fault(sixPlayers, "offset 5 -^;");
         fault(sixPlayers, "offset ^- 1 5;");
+        fault(sixPlayers, "offset 5 ^; 5;");
         fault("", "window 1 1; offset ^0 1;");
         TownPlayers x = new TownPlayers();
         StringBuilder figures = new StringBuilder("window ");
