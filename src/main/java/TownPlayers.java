@@ -487,10 +487,6 @@ public final class TownPlayers {
             return Math.max(0, apart(windowX[w], windowY[w], earX[e], earY[e]) * slow + wind);
         }
 
-        int echoTime(int w, int e) {
-            return pacesByMill(w, e) * slow;
-        }
-
         /** Whether one beginning at this window explains all the told times. */
         boolean mayComeFrom(int w, int told, int[] times) {
             int first = NONE;
@@ -661,7 +657,8 @@ public final class TownPlayers {
                 int loud = band.louds[p];
                 add(p, streets.soundTime(w, ear), loud - streets.pacesToEar(w, ear));
                 if (kind == ECHOED && streets.hasMill()) {
-                    add(p, streets.echoTime(w, ear), loud / 2 - streets.pacesByMill(w, ear));
+                    int paces = streets.pacesByMill(w, ear);
+                    add(p, paces * streets.slow, loud / 2 - paces);
                 }
                 if (kind == TWO) {
                     int second = streets.nextWindow(w);

@@ -339,6 +339,9 @@ final class TownPromisesTest {
         while (figures.length() < 250) figures.append('9');
         DUE.is("12 figures to the text's end", Due.read(x, figures.toString()), -17);
         DUE.is("12 the last of 250 bytes", Due.read(x, "slow 1; ".repeat(30) + "  slow   9"), -10 - 250);
+        DUE.is("12 a word to the end of 250 bytes", Due.read(x, "slow 1; ".repeat(31) + "ea"), -10 - 248);
+        DUE.is("12 'slow' is read", Due.read(x, "slow"), -10 - 4);
+        DUE.is("12 'slo' has no more of the text that was", Due.read(x, "slo"), -10);
         DUE.is("12 31 items", Due.read(x, "slow 1; ".repeat(30) + "   slow 9;"), 31);
     }
 
