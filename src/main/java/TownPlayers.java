@@ -140,7 +140,7 @@ public final class TownPlayers {
     // ---- what is heard
 
     public int heard(int ear, int t, int i) {
-        if (!hasEar(ear) || !isWithin(t, 0, TIME_TOP) || i < NONE) return refuseBad(HEARD_BAD);
+        if (!hasEar(ear) || !isTime(t) || i < NONE) return refuseBad(HEARD_BAD);
         hearing.listen(streets, band, ear);
         if (i == NONE) return hearing.size;
         if (i >= hearing.size) return HEARD_NO_MORE;
@@ -252,13 +252,11 @@ public final class TownPlayers {
 
     public int wrong(int ears, int t0, int t1, int t2) {
         if (ears < 1 || ears >= 1 << streets.ears) return refuseBad(BAD);
+        // Each time is held to its bounds, also that at an ear where nothing was heard.
+        if (!isTime(t0) || !isTime(t1) || !isTime(t2)) return refuseBad(BAD);
         noteTimes[0] = t0;
         noteTimes[1] = t1;
         noteTimes[2] = t2;
-        for (int e = 0; e < streets.ears; e++) {
-            // The time at an ear that heard nothing is no number that was told.
-            if (holds(ears, e) && !isWithin(noteTimes[e], 0, TIME_TOP)) return refuseBad(BAD);
-        }
         int found = 0;
         for (int w = 0; w < streets.windows; w++) {
             if (streets.mayComeFrom(w, ears, noteTimes)) found |= 1 << w;
@@ -386,6 +384,10 @@ public final class TownPlayers {
 
     private static boolean isPlace(int x, int y) {
         return isWithin(x, 0, PLACE_TOP) && isWithin(y, 0, PLACE_TOP);
+    }
+
+    private static boolean isTime(int t) {
+        return isWithin(t, 0, TIME_TOP);
     }
 
     private static boolean holds(int bits, int i) {

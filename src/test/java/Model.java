@@ -520,7 +520,7 @@ final class Model {
     int wrong(int told, int t0, int t1, int t2) {
         int[] times = {t0, t1, t2};
         if (!in(told, 1, (1 << ears.size()) - 1)) return refuse(0, -2);
-        for (int e = 0; e < 3; e++) if ((told >> e & 1) == 1 && !in(times[e], 0, 9999)) return refuse(0, -2);
+        for (int t : times) if (!in(t, 0, 9999)) return refuse(0, -2);
         int bits = 0;
         for (int w = 0; w < windows.size(); w++) {
             List<Integer> begun = new ArrayList<>();

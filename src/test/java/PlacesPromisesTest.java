@@ -104,10 +104,12 @@ final class PlacesPromisesTest {
 
     private static void wrongRefused() {
         TownPlayers x = Due.town(TWO_EARS);
-        int[][] bad = {{0, 5, 5, 5}, {-1, 5, 5, 5}, {4, 5, 5, 5}, {7, 5, 5, 5}, {8, 5, 5, 5}, {1, -1, 5, 5}, {3, 5, 10000, 5}};
-        for (int[] c : bad) DUE.is("26 wrong(" + c[0] + ", " + c[1] + ", " + c[2] + ", ..)", x.wrong(c[0], c[1], c[2], c[3]), TownPlayers.BAD);
-        DUE.is("26 status(0)", x.status(0), 7);
-        DUE.is("26 a time that is not told", x.wrong(1, 9999, -1, 10000), 3);
+        int[][] bad = {{0, 5, 5, 5}, {-1, 5, 5, 5}, {4, 5, 5, 5}, {7, 5, 5, 5}, {8, 5, 5, 5}, {1, -1, 5, 5}, {3, 5, 10000, 5},
+                {2, -1, 5, 5}, {2, 10000, 5, 5}, {1, 5, -1, 5}, {1, 5, 10000, 5}, {3, 5, 5, -1}, {3, 5, 5, 10000}};
+        for (int[] c : bad) DUE.is("26 wrong(" + c[0] + ", " + c[1] + ", " + c[2] + ", " + c[3] + ")", x.wrong(c[0], c[1], c[2], c[3]), TownPlayers.BAD);
+        DUE.is("26 status(0)", x.status(0), bad.length);
+        DUE.is("26 times at their bounds where nothing was heard", x.wrong(1, 5, 0, 9999), 3);
+        DUE.is("26 times at their other bounds", x.wrong(1, 9999, 9999, 0), 3);
     }
 
     private static void nextEar() {
