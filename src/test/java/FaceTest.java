@@ -75,6 +75,7 @@ final class FaceTest {
             if (c != TownPlayers.class) {
                 DUE.is("2 static: " + c, Modifier.isStatic(c.getModifiers()) && !Modifier.isPublic(c.getModifiers()) ? 1 : 0, 1);
                 for (Method m : c.getDeclaredMethods()) {
+                    DUE.is("1 no name of the face: " + m, Arrays.stream(FACE).anyMatch(f -> f.contains(" " + m.getName() + "(")) ? 1 : 0, 0);
                     DUE.is("1 no face of its own: " + m, Modifier.isPublic(m.getModifiers()) || Modifier.isProtected(m.getModifiers()) ? 1 : 0, 0);
                 }
             }

@@ -39,9 +39,10 @@ final class ModelTest {
         due.is(told + call, got, want);
     }
 
-    /** Mostly within the bounds, at times at their very edge or beyond. */
+    /** Mostly within the bounds, at times at their very edge, beyond, or far beyond. */
     private int some(int low, int high) {
         int kind = random.nextInt(24);
+        if (kind == 4 && random.nextInt(4) == 0) return random.nextBoolean() ? Integer.MIN_VALUE : Integer.MAX_VALUE;
         if (kind == 0) return low - 1;
         if (kind == 1) return high + 1;
         if (kind == 2) return low;
