@@ -449,6 +449,11 @@ final class RestEdgesTest {
         // Apart by one part alone.
         TownPlayers y = Due.town("window 0 0;window 1 0;ear 0 0;ear 0 0;ear 1 0;slow 1;");
         DUE.is("27 by two parts", y.nextEar(3), 2);
+        // A pair counts once: EAR 1 parts by x (0 and 2 from 1 and 3: 4 pairs), EAR 2 by y (all but 0 and 1: 5 pairs).
+        TownPlayers pairs = Due.town("window 0 0;window 10 0;window 0 5;window 10 10;ear 0 0;ear 10 0;ear 0 10;");
+        DUE.is("27 5 pairs rather than 4", pairs.nextEar(15), 2);
+        DUE.is("27 two pairs by each: the least", pairs.nextEar(7), 1);
+        DUE.is("27 three pairs rather than two", pairs.nextEar(13), 2);
         // As far apart without sign, but not the same way.
         TownPlayers z = Due.town("window 0 0;window 10 0;ear 0 0;ear 10 0;");
         DUE.is("27 the sign counts", z.nextEar(3), 1);
