@@ -16,6 +16,7 @@ final class RestEdgesTest {
         roundAllAtOnce();
         roundHeldAtItsEdges();
         roundToItself();
+        roundOfKinds();
         undoNone();
         undoEight();
         undoOffsetsAlone();
@@ -135,6 +136,30 @@ final class RestEdgesTest {
         DUE.is("21 all listen to themselves", x.round(), 0);
         offsets("21 they stay", x, 500, -500, 7, 0, 0, 0);
         DUE.is("23 that is settled", x.settles(), 0);
+    }
+
+    /**
+     * "a PLAYER whose sound it hears at its own WINDOW after PACES between both WINDOWS times SLOW": whatever both KINDS,
+     * "its OFFSET becomes that one's OFFSET" (not its LATE), with no WIND, and TWO is its own WINDOW alone.
+     */
+    private static void roundOfKinds() {
+        for (int kind = 0; kind <= 5; kind++) {
+            for (int other = 0; other <= 5; other++) {
+                TownPlayers x = Due.town(LINE + "mill 90 90;player " + kind + " 0 9;player " + other + " 1 1;player 0 2 9;offset 1 37;");
+                x.put(1, 2);
+                x.put(2, -2);
+                x.put(3, 4);
+                x.follow(0, 1);
+                x.follow(2, 0);
+                String what = kind + " who listens to " + other;
+                DUE.is("23 " + what, x.settles(), 2);
+                DUE.is("24 " + what, x.slip(1, 3, 2), 7);
+                DUE.is("21 " + what, x.round(), 2);
+                offsets("21 " + what, x, 63, 37, 56);
+                DUE.is("21 " + what + ", once more", x.round(), 1);
+                offsets("21 " + what + ", once more", x, 63, 37, 119);
+            }
+        }
     }
 
     /** "NO: none may be." */
